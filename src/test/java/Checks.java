@@ -12,6 +12,12 @@ final class Checks {
 
     private static final int HIGHEST_SPOT = 11;
     private int wrong = 0;
+    private String sentence = "";
+
+    /** What the document says and the checks behind this call hold; told with each wrong answer. */
+    void sentence(String text) {
+        sentence = text + ": ";
+    }
 
     void answers(String what, long due, long got) {
         if (due != got) {
@@ -48,6 +54,13 @@ final class Checks {
         BackMirror mirror = made.get();
         isRefused(what, due, () -> call.answer(mirror));
         answers(what + ": what is seen behind it", picture(made.get()), picture(mirror));
+    }
+
+    /** Refused, and nothing changed, in every sort of state. */
+    void isRefusedEverywhere(String what, Class<? extends RuntimeException> due, CallOn call) {
+        for (States.State state : States.ALL) {
+            isRefusedUnchanged(what + ", " + state.name(), due, state.made(), call);
+        }
     }
 
     /** An answer as a text; behind a throw, the name of the class that was thrown. */
@@ -111,6 +124,20 @@ final class Checks {
         }
     }
 
+    /** Makes a place N, nothing, L5, a link, or F123, a file; behind a mark the rights, as L5/7. */
+    static void make(BackMirror mirror, int place, String thing) {
+        int mark = thing.indexOf('/');
+        String body = mark < 0 ? thing : thing.substring(0, mark);
+        switch (body.charAt(0)) {
+            case 'F' -> file(mirror, place, body.substring(1));
+            case 'L' -> mirror.makeLink(place, body.charAt(1) - '0');
+            default -> mirror.remove(place);
+        }
+        if (mark >= 0) {
+            mirror.setRights(place, thing.charAt(mark + 1) - '0');
+        }
+    }
+
     void end() {
         if (wrong > 0) {
             System.out.println(wrong + " wrong");
@@ -120,6 +147,6 @@ final class Checks {
 
     private void report(String text) {
         wrong++;
-        System.out.println(text);
+        System.out.println(sentence + text);
     }
 }

@@ -151,26 +151,12 @@ public final class WhatThereIsTest {
     /** What the difference of a place takes that is first the one thing and then the other. */
     private static int taken(String older, String newer) {
         BackMirror mirror = new BackMirror();
-        make(mirror, older);
+        Checks.make(mirror, 3, older);
         mirror.run(1);
-        make(mirror, newer);
+        Checks.make(mirror, 3, newer);
         mirror.run(1);
         checks.answers("the last date's size, of " + older + " and " + newer, 0, mirror.sizeAt(2, 3));
         return mirror.sizeAt(1, 3);
-    }
-
-    /** N for nothing, L5 for a link, F123 for a file; behind a mark the rights, as L5/7. */
-    private static void make(BackMirror mirror, String thing) {
-        int mark = thing.indexOf('/');
-        String body = mark < 0 ? thing : thing.substring(0, mark);
-        switch (body.charAt(0)) {
-            case 'F' -> Checks.file(mirror, 3, body.substring(1));
-            case 'L' -> mirror.makeLink(3, body.charAt(1) - '0');
-            default -> mirror.remove(3);
-        }
-        if (mark >= 0) {
-            mirror.setRights(3, thing.charAt(mark + 1) - '0');
-        }
     }
 
     private static void takes(int due, String older, String newer) {
